@@ -391,7 +391,7 @@ public final class AllocForge {
         }
 
         private double heaviestMeeting(Code code, int v, int home) {
-            double heaviest = 0;
+            double heaviest = 0.0;
             for (int w = 0; w < code.size(); w++) {
                 if (homes[w] == home && code.meet(v, w) && code.weightOf(w) > heaviest) {
                     heaviest = code.weightOf(w);
@@ -411,7 +411,7 @@ public final class AllocForge {
 
         private boolean takeSlot(Code code, int v) {
             for (int slot = FIRST_SLOT; slot < FIRST_SLOT + SLOT_LIMIT; slot++) {
-                if (heaviestMeeting(code, v, slot) == 0) {
+                if (heaviestMeeting(code, v, slot) == 0.0) {
                     homes[v] = slot;
                     return true;
                 }
@@ -480,7 +480,7 @@ public final class AllocForge {
         }
 
         double priceOfSlots(Code code) {
-            double price = 0;
+            double price = 0.0;
             for (int v = 0; v < code.size(); v++) {
                 if (homes[v] >= FIRST_SLOT) {
                     price += code.priceOf(v);

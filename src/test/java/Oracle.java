@@ -1,4 +1,5 @@
 import java.util.ArrayList;
+import java.util.Arrays;
 import java.util.List;
 
 /** The document's terms in their plainest form, worked out anew from the code for every question. */
@@ -80,7 +81,7 @@ final class Oracle {
 
     /** How many values got a register, or NO_ROOM. */
     int allocate(int k) {
-        java.util.Arrays.fill(place, null);
+        Arrays.fill(place, null);
         evicted = 0;
         for (int v = next(); v >= 0; v = next()) {
             if (!takeFree(v, 0, allowed(v, k)) && !putOthersOut(v, k) && !takeFree(v, 10, 16)) {

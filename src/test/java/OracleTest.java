@@ -25,14 +25,12 @@ public final class OracleTest {
 
     private static int[][] code(Random random) {
         int many = random.nextInt(25);
-        int firstUse = random.nextInt(13);
-        int calls = random.nextInt(4);
+        int firstUse = 1 + random.nextInt(12);
+        boolean calls = random.nextBoolean();
         int[][] code = new int[many][];
         List<Integer> values = new ArrayList<>();
         for (int i = 0; i < many; i++) {
-            int op = i < firstUse || values.isEmpty() ? random.nextInt(2) : 2 + random.nextInt(4 + calls / 2);
-            op = op == 7 || calls != 3 || i == 0 || values.isEmpty() || random.nextInt(6) > 0 ? op : 7;
-            op = op >= 2 && random.nextInt(8) == 0 ? 6 : op;
+            int op = i < firstUse ? random.nextInt(2) : pickOp(random, calls);
             int a = op == 0 ? random.nextInt(5) - 2 : op == 1 ? random.nextInt(4) : pick(random, values);
             int b = op >= 2 && op <= 5 ? pick(random, values) : random.nextInt();
             code[i] = new int[] {op, a, b, random.nextInt(4)};
@@ -41,6 +39,19 @@ public final class OracleTest {
             }
         }
         return code;
+    }
+
+    private static int pickOp(Random random, boolean calls) {
+        switch (random.nextInt(8)) {
+            case 0:
+                return 6;
+            case 1:
+                return calls ? 7 : 4;
+            case 2:
+                return random.nextInt(2);
+            default:
+                return 2 + random.nextInt(4);
+        }
     }
 
     private static int pick(Random random, List<Integer> values) {
