@@ -1,78 +1,96 @@
-/** What the tests share: they print every answer that is not as due, and end with 1 if there was one. */
+/**
+ * What the tests share: each looks at the document sentence by sentence, prints every answer that is
+ * not as due with the promise and the sentence that ask for it, and ends with 1 if there was one.
+ */
 final class Check {
-    interface Call {
-        Object answer();
+    interface Answer {
+        Object get();
     }
 
-    private static final int ANY = 0;
+    interface Call {
+        Object of(AllocForge forge);
+    }
 
-    private int wrong;
+    interface Maker {
+        AllocForge make();
+    }
+
+    private final String promise;
+    private String sentence = "";
+    private int sentences;
+    private int lookedInSentence;
     private int looked;
+    private int wrong;
 
-    /** Looks whether the call answers what is due. */
-    void due(Object want, String what, Call call) {
+    Check(String promise) {
+        this.promise = promise;
+    }
+
+    /** What is looked at from now on is asked for by these words of the document. */
+    void sentence(String words) {
+        endSentence();
+        sentence = words;
+        sentences++;
+        lookedInSentence = 0;
+    }
+
+    /** Looks whether the answer is what is due; an exception's class is the answer of a call that throws it. */
+    void due(Object want, String what, Answer answer) {
         looked++;
+        lookedInSentence++;
         Object got;
         try {
-            got = call.answer();
+            got = answer.get();
         } catch (RuntimeException e) {
             got = e.getClass();
         }
         if (!want.equals(got)) {
-            wrong++;
-            System.out.println(what + " answered " + got + ", due is " + want);
+            tell(what + " answered " + got + ", due is " + want);
         }
     }
 
-    void badArgument(String what, Call call) {
-        due(IllegalArgumentException.class, what, call);
+    void badArgument(String what, Answer answer) {
+        due(IllegalArgumentException.class, what, answer);
     }
 
-    void badState(String what, Call call) {
-        due(IllegalStateException.class, what, call);
+    void badState(String what, Answer answer) {
+        due(IllegalStateException.class, what, answer);
     }
 
-    void badIndex(String what, Call call) {
-        due(IndexOutOfBoundsException.class, what, call);
+    void badIndex(String what, Answer answer) {
+        due(IndexOutOfBoundsException.class, what, answer);
     }
 
-    void fault(String what, Call call) {
-        due(ArithmeticException.class, what, call);
+    void fault(String what, Answer answer) {
+        due(ArithmeticException.class, what, answer);
+    }
+
+    /** Looks whether a new object refuses the call as due, and answers all that can be asked as before. */
+    void refused(Class<?> want, String what, Maker maker, Call call) {
+        AllocForge forge = maker.make();
+        String before = Forges.state(forge);
+        due(want, what, () -> call.of(forge));
+        due(before, "all that can be asked behind the refused " + what, () -> Forges.state(forge));
     }
 
     void end() {
-        System.out.println(looked + " answers looked at, " + wrong + " not as due");
+        endSentence();
+        System.out.println(promise + ": " + sentences + " sentences, " + looked + " answers looked at, "
+                + wrong + " not as due");
         if (wrong > 0 || looked == 0) {
             System.exit(1);
         }
     }
 
-    /** A new object with the instructions (op, a, b, depth) of the rows. */
-    static AllocForge forge(int[]... rows) {
-        AllocForge forge = new AllocForge();
-        for (int[] row : rows) {
-            forge.add(row[0], row[1], row[2], row[3]);
+    // A sentence under which nothing is looked at would seem to hold.
+    private void endSentence() {
+        if (sentences > 0 && lookedInSentence == 0) {
+            tell("nothing was looked at");
         }
-        return forge;
     }
 
-    static int[] constant(int number, int depth) {
-        return new int[] {0, number, ANY, depth};
-    }
-
-    static int[] arg(int number) {
-        return new int[] {1, number, ANY, 0};
-    }
-
-    static int[] two(int op, int a, int b) {
-        return new int[] {op, a, b, 0};
-    }
-
-    static int[] say(int a) {
-        return new int[] {6, a, ANY, 0};
-    }
-
-    static int[] call(int a) {
-        return new int[] {7, a, ANY, 0};
+    private void tell(String text) {
+        wrong++;
+        System.out.println(promise + ", \"" + sentence + "\": " + text);
     }
 }

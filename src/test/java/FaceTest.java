@@ -8,7 +8,7 @@ import java.util.TreeSet;
 /** The class's face: what the document names, and nothing else that can be seen from outside. */
 public final class FaceTest {
     public static void main(String[] args) {
-        Check check = new Check();
+        Check check = new Check("The public face");
         int modifiers = AllocForge.class.getModifiers();
         check.due(true, "public final class", () -> Modifier.isPublic(modifiers) && Modifier.isFinal(modifiers));
         check.due(wanted(), "the methods seen", FaceTest::methodsSeen);

@@ -6,7 +6,7 @@ import java.util.Random;
 public final class OracleTest {
     private static final int CODES = 6000;
 
-    private final Check check = new Check();
+    private final Check check = new Check("All promises");
     private int roomless;
     private int evicting;
     private int faulty;
