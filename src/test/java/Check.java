@@ -15,6 +15,10 @@ final class Check {
         AllocForge make();
     }
 
+    interface Part {
+        void of(Check check);
+    }
+
     private final String promise;
     private String sentence = "";
     private int sentences;
@@ -26,7 +30,19 @@ final class Check {
         this.promise = promise;
     }
 
-    /** What is looked at from now on is asked for by these words of the document. */
+    /** Looks at all parts, also behind one that breaks off, and ends. */
+    void lookAt(Part... parts) {
+        for (Part part : parts) {
+            try {
+                part.of(this);
+            } catch (RuntimeException e) {
+                tell("broken off by " + e + " at " + e.getStackTrace()[0]);
+            }
+        }
+        end();
+    }
+
+    /** What is looked at from now on is asked for by these words of the document, or is a case of them. */
     void sentence(String words) {
         endSentence();
         sentence = words;

@@ -9,6 +9,7 @@ import java.util.TreeSet;
 public final class FaceTest {
     public static void main(String[] args) {
         Check check = new Check("The public face");
+        check.sentence("public final class AllocForge");
         int modifiers = AllocForge.class.getModifiers();
         check.due(true, "public final class", () -> Modifier.isPublic(modifiers) && Modifier.isFinal(modifiers));
         check.due(wanted(), "the methods seen", FaceTest::methodsSeen);
@@ -20,18 +21,18 @@ public final class FaceTest {
 
     private static Set<String> wanted() {
         Set<String> face = new TreeSet<>();
-        face.add("int add(int,int,int,int)");
+        face.add("int add(int,int,int,int) throws IllegalArgumentException,IllegalStateException");
         face.add("int clear()");
-        face.add("int allocate(int)");
-        face.add("int place(int)");
-        face.add("double weight(int)");
-        face.add("int told(int,int)");
-        face.add("double cost()");
-        face.add("int run(int,int,int,int)");
-        face.add("int go(int,int,int,int)");
-        face.add("boolean same(int,int,int,int)");
-        face.add("int said(int)");
-        face.add("int count(int)");
+        face.add("int allocate(int) throws IllegalArgumentException,IllegalStateException");
+        face.add("int place(int) throws IndexOutOfBoundsException,IllegalStateException");
+        face.add("double weight(int) throws IndexOutOfBoundsException");
+        face.add("int told(int,int) throws IllegalArgumentException,IndexOutOfBoundsException");
+        face.add("double cost() throws IllegalStateException");
+        face.add("int run(int,int,int,int) throws ArithmeticException");
+        face.add("int go(int,int,int,int) throws IllegalStateException,ArithmeticException");
+        face.add("boolean same(int,int,int,int) throws IllegalStateException");
+        face.add("int said(int) throws IndexOutOfBoundsException");
+        face.add("int count(int) throws IllegalArgumentException");
         return face;
     }
 
@@ -46,7 +47,7 @@ public final class FaceTest {
     }
 
     private static String described(Method method) {
-        String text = method.toGenericString().replaceAll(" throws .*", "").replace("AllocForge.", "");
+        String text = method.toGenericString().replace("AllocForge.", "").replace("java.lang.", "");
         return text.startsWith("public ") ? text.substring("public ".length()) : text;
     }
 

@@ -13,6 +13,7 @@ public final class OracleTest {
 
     public static void main(String[] args) {
         OracleTest test = new OracleTest();
+        test.check.sentence("all terms together");
         for (int seed = 0; seed < CODES; seed++) {
             test.lookAt(seed);
         }

@@ -1,12 +1,11 @@
 /** Promise 1: A new object. */
 public final class Promise01NewObjectTest {
     public static void main(String[] args) {
-        Check check = new Check("Promise 1");
-        noCode(check);
-        nothingAllocated(check);
-        nothingSaid(check);
-        objectsAreApart(check);
-        check.end();
+        new Check("Promise 1").lookAt(
+                Promise01NewObjectTest::noCode,
+                Promise01NewObjectTest::nothingAllocated,
+                Promise01NewObjectTest::nothingSaid,
+                Promise01NewObjectTest::objectsAreApart);
     }
 
     private static void noCode(Check check) {

@@ -3,20 +3,19 @@ public final class Promise02AddTest {
     private static final int[] WRONG = {-1, 2, 5, 6, 23, 24, Forges.MIN, Forges.MAX};
 
     public static void main(String[] args) {
-        Check check = new Check("Promise 2");
-        behindAllOthers(check);
-        nothingIsAllocatedThen(check);
-        howMany(check);
-        wrongOperation(check);
-        wrongDepth(check);
-        wrongArgument(check);
-        wrongLeft(check);
-        wrongRight(check);
-        rightIsNotLookedAt(check);
-        leftMayBeAnyIntForAConstant(check);
-        full(check);
-        wrongNumberWith24(check);
-        check.end();
+        new Check("Promise 2").lookAt(
+                Promise02AddTest::behindAllOthers,
+                Promise02AddTest::nothingIsAllocatedThen,
+                Promise02AddTest::howMany,
+                Promise02AddTest::wrongOperation,
+                Promise02AddTest::wrongDepth,
+                Promise02AddTest::wrongArgument,
+                Promise02AddTest::wrongLeft,
+                Promise02AddTest::wrongRight,
+                Promise02AddTest::rightIsNotLookedAt,
+                Promise02AddTest::leftMayBeAnyIntForAConstant,
+                Promise02AddTest::full,
+                Promise02AddTest::wrongNumberWith24);
     }
 
     private static void refused(Check check, String what, Check.Call call) {

@@ -1,13 +1,12 @@
 /** Promise 3: clear. */
 public final class Promise03ClearTest {
     public static void main(String[] args) {
-        Check check = new Check("Promise 3");
-        noCode(check);
-        nothingAllocated(check);
-        howManyThereWere(check);
-        nothingOfTheOldCode(check);
-        saidStays(check);
-        check.end();
+        new Check("Promise 3").lookAt(
+                Promise03ClearTest::noCode,
+                Promise03ClearTest::nothingAllocated,
+                Promise03ClearTest::howManyThereWere,
+                Promise03ClearTest::nothingOfTheOldCode,
+                Promise03ClearTest::saidStays);
     }
 
     private static void noCode(Check check) {

@@ -1,16 +1,15 @@
 /** Promise 4: allocate. */
 public final class Promise04AllocateTest {
     public static void main(String[] args) {
-        Check check = new Check("Promise 4");
-        allocatedWithK(check);
-        howManyGotOne(check);
-        emptyCode(check);
-        anotherNumber(check);
-        anotherNumberWithoutRoom(check);
-        noRoom(check);
-        nothingChangesThen(check);
-        lastThatFits(check);
-        check.end();
+        new Check("Promise 4").lookAt(
+                Promise04AllocateTest::allocatedWithK,
+                Promise04AllocateTest::howManyGotOne,
+                Promise04AllocateTest::emptyCode,
+                Promise04AllocateTest::anotherNumber,
+                Promise04AllocateTest::anotherNumberWithoutRoom,
+                Promise04AllocateTest::noRoom,
+                Promise04AllocateTest::nothingChangesThen,
+                Promise04AllocateTest::lastThatFits);
     }
 
     private static void allocatedWithK(Check check) {

@@ -1,12 +1,11 @@
 /** Promise 5: place. */
 public final class Promise05PlaceTest {
     public static void main(String[] args) {
-        Check check = new Check("Promise 5");
-        registersAndSlots(check);
-        noSuchValue(check);
-        nothingAllocated(check);
-        neitherValueNorAllocation(check);
-        check.end();
+        new Check("Promise 5").lookAt(
+                Promise05PlaceTest::registersAndSlots,
+                Promise05PlaceTest::noSuchValue,
+                Promise05PlaceTest::nothingAllocated,
+                Promise05PlaceTest::neitherValueNorAllocation);
     }
 
     private static void registersAndSlots(Check check) {

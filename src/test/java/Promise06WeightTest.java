@@ -1,11 +1,10 @@
 /** Promise 6: weight. */
 public final class Promise06WeightTest {
     public static void main(String[] args) {
-        Check check = new Check("Promise 6");
-        weights(check);
-        asTheCodeGrows(check);
-        noSuchValue(check);
-        check.end();
+        new Check("Promise 6").lookAt(
+                Promise06WeightTest::weights,
+                Promise06WeightTest::asTheCodeGrows,
+                Promise06WeightTest::noSuchValue);
     }
 
     private static void weights(Check check) {

@@ -1,15 +1,14 @@
 /** Promise 7: told. */
 public final class Promise07ToldTest {
     public static void main(String[] args) {
-        Check check = new Check("Promise 7");
-        theEnd(check);
-        uses(check);
-        crossed(check);
-        meetings(check);
-        anotherWhat(check);
-        noSuchValue(check);
-        neitherWhatNorValue(check);
-        check.end();
+        new Check("Promise 7").lookAt(
+                Promise07ToldTest::theEnd,
+                Promise07ToldTest::uses,
+                Promise07ToldTest::crossed,
+                Promise07ToldTest::meetings,
+                Promise07ToldTest::anotherWhat,
+                Promise07ToldTest::noSuchValue,
+                Promise07ToldTest::neitherWhatNorValue);
     }
 
     private static void theEnd(Check check) {
@@ -49,7 +48,8 @@ public final class Promise07ToldTest {
 
     private static void meetings(Check check) {
         check.sentence("3: with how many other VALUES it MEETS");
-        AllocForge forge = Forges.of(Forges.constant(1), Forges.say(0), Forges.constant(2), Forges.say(0), Forges.say(2));
+        AllocForge forge = Forges.of(
+                Forges.constant(1), Forges.say(0), Forges.constant(2), Forges.say(0), Forges.say(2));
         check.due(1, "0 with 2, not with itself, nor with a SAY", () -> forge.told(0, 3));
         check.due(1, "2 with 0", () -> forge.told(2, 3));
         check.due(0, "one alone", () -> Forges.of(Forges.constant(1)).told(0, 3));

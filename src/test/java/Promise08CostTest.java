@@ -1,11 +1,10 @@
 /** Promise 8: cost. */
 public final class Promise08CostTest {
     public static void main(String[] args) {
-        Check check = new Check("Promise 8");
-        costs(check);
-        noneInSlots(check);
-        nothingAllocated(check);
-        check.end();
+        new Check("Promise 8").lookAt(
+                Promise08CostTest::costs,
+                Promise08CostTest::noneInSlots,
+                Promise08CostTest::nothingAllocated);
     }
 
     private static void costs(Check check) {

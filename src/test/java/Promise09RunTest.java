@@ -1,13 +1,12 @@
 /** Promise 9: run. */
 public final class Promise09RunTest {
     public static void main(String[] args) {
-        Check check = new Check("Promise 9");
-        results(check);
-        noCode(check);
-        saidIsOfIt(check);
-        faults(check);
-        changesNothingElse(check);
-        check.end();
+        new Check("Promise 9").lookAt(
+                Promise09RunTest::results,
+                Promise09RunTest::noCode,
+                Promise09RunTest::saidIsOfIt,
+                Promise09RunTest::faults,
+                Promise09RunTest::changesNothingElse);
     }
 
     private static void results(Check check) {
@@ -27,6 +26,8 @@ public final class Promise09RunTest {
         check.sentence("THE RESULT (0 if there is none)");
         check.due(0, "no CODE", () -> new AllocForge().run(1, 2, 3, 4));
         AllocForge forge = Forges.busy();
+        Forges.add(forge, Forges.constant(5));
+        check.due(5, "CODE", () -> forge.run(1, 2, 3, 4));
         forge.clear();
         check.due(0, "no CODE any more", () -> forge.run(1, 2, 3, 4));
         check.due(0, "numbers SAID", () -> forge.count(2));
@@ -44,6 +45,10 @@ public final class Promise09RunTest {
         forge.run(8, 1, 0, 0);
         check.due(1, "said(0) behind same and run", () -> forge.said(0));
         check.due(8, "said(1) behind same and run", () -> forge.said(1));
+        forge.go(90, 9, 0, 0);
+        check.fault("run with a FAULT", () -> forge.run(8, 0, 0, 0));
+        check.due(0, "said(0) behind go and a run with a FAULT", () -> forge.said(0));
+        check.due(1, "how many then", () -> forge.count(2));
     }
 
     private static void faults(Check check) {

@@ -1,14 +1,13 @@
 /** Promise 10: go. */
 public final class Promise10GoTest {
     public static void main(String[] args) {
-        Check check = new Check("Promise 10");
-        results(check);
-        noCode(check);
-        saidIsOfIt(check);
-        faults(check);
-        changesNothingElse(check);
-        nothingAllocated(check);
-        check.end();
+        new Check("Promise 10").lookAt(
+                Promise10GoTest::results,
+                Promise10GoTest::noCode,
+                Promise10GoTest::saidIsOfIt,
+                Promise10GoTest::faults,
+                Promise10GoTest::changesNothingElse,
+                Promise10GoTest::nothingAllocated);
     }
 
     private static void results(Check check) {
@@ -36,6 +35,9 @@ public final class Promise10GoTest {
     private static void noCode(Check check) {
         check.sentence("THE RESULT (0 if there is none), likewise");
         AllocForge forge = Forges.busy();
+        Forges.add(forge, Forges.constant(5));
+        forge.allocate(5);
+        check.due(5, "CODE, ALLOCATED", () -> forge.go(1, 2, 3, 4));
         forge.clear();
         forge.allocate(5);
         check.due(0, "no CODE, ALLOCATED", () -> forge.go(1, 2, 3, 4));
@@ -53,6 +55,10 @@ public final class Promise10GoTest {
         forge.go(9, 3, 0, 0);
         check.due(3, "said(0) behind go again", () -> forge.said(0));
         check.due(2, "how many then", () -> forge.count(2));
+        forge.run(90, 9, 0, 0);
+        check.fault("go with a FAULT", () -> forge.go(8, 0, 0, 0));
+        check.due(0, "said(0) behind run and a go with a FAULT", () -> forge.said(0));
+        check.due(1, "how many behind it", () -> forge.count(2));
     }
 
     private static void faults(Check check) {

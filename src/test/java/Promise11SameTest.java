@@ -1,14 +1,13 @@
 /** Promise 11: same. */
 public final class Promise11SameTest {
     public static void main(String[] args) {
-        Check check = new Check("Promise 11");
-        sameSaidAndResult(check);
-        bothAFault(check);
-        saidIsOfTheSecond(check);
-        noCode(check);
-        changesNothingElse(check);
-        nothingAllocated(check);
-        check.end();
+        new Check("Promise 11").lookAt(
+                Promise11SameTest::sameSaidAndResult,
+                Promise11SameTest::bothAFault,
+                Promise11SameTest::saidIsOfTheSecond,
+                Promise11SameTest::noCode,
+                Promise11SameTest::changesNothingElse,
+                Promise11SameTest::nothingAllocated);
     }
 
     private static void sameSaidAndResult(Check check) {
@@ -36,6 +35,8 @@ public final class Promise11SameTest {
             check.due(0, "said(0)", () -> forge.said(0));
             check.badIndex("said(1)", () -> forge.said(1));
             check.due(true, "same without a FAULT", () -> forge.same(6, 2, 0, 0));
+            check.due(true, "same with 0 by 0", () -> forge.same(0, 0, 0, 0));
+            check.due(true, "same with the least by 0", () -> forge.same(Forges.MIN, 0, 0, 0));
         }
     }
 

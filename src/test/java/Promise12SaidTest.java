@@ -1,14 +1,13 @@
 /** Promise 12: said. */
 public final class Promise12SaidTest {
     public static void main(String[] args) {
-        Check check = new Check("Promise 12");
-        numbersInOrder(check);
-        mostThatCanBeSaid(check);
-        ofTheLatestRun(check);
-        alsoWithAFault(check);
-        refusedCallsAreNoRun(check);
-        noSuchNumber(check);
-        check.end();
+        new Check("Promise 12").lookAt(
+                Promise12SaidTest::numbersInOrder,
+                Promise12SaidTest::mostThatCanBeSaid,
+                Promise12SaidTest::ofTheLatestRun,
+                Promise12SaidTest::alsoWithAFault,
+                Promise12SaidTest::refusedCallsAreNoRun,
+                Promise12SaidTest::noSuchNumber);
     }
 
     /** Looks whether these numbers were SAID, and none else. */
@@ -82,6 +81,9 @@ public final class Promise12SaidTest {
         said(check, "go with a FAULT", forge, 0);
         forge.go(9, 1, 0, 0);
         said(check, "go without", forge, 1, 9);
+        check.fault("run behind go", () -> forge.run(4, 0, 0, 0));
+        said(check, "run with a FAULT behind go", forge, 0);
+        forge.run(9, 1, 0, 0);
         forge.same(4, 0, 0, 0);
         said(check, "same with FAULTS", forge, 0);
         AllocForge first = Forges.of(Forges.arg(0), Forges.say(0), Forges.two(Forges.DIV, 0, 0), Forges.say(0));

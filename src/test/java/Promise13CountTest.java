@@ -1,18 +1,17 @@
 /** Promise 13: count. */
 public final class Promise13CountTest {
     public static void main(String[] args) {
-        Check check = new Check("Promise 13");
-        instructions(check);
-        values(check);
-        numbersSaid(check);
-        nothingAllocated(check);
-        evicted(check);
-        valuesInSlots(check);
-        slotsUsed(check);
-        registersUsed(check);
-        withHowMany(check);
-        others(check);
-        check.end();
+        new Check("Promise 13").lookAt(
+                Promise13CountTest::instructions,
+                Promise13CountTest::values,
+                Promise13CountTest::numbersSaid,
+                Promise13CountTest::nothingAllocated,
+                Promise13CountTest::evicted,
+                Promise13CountTest::valuesInSlots,
+                Promise13CountTest::slotsUsed,
+                Promise13CountTest::registersUsed,
+                Promise13CountTest::withHowMany,
+                Promise13CountTest::others);
     }
 
     private static void instructions(Check check) {

@@ -3,22 +3,21 @@ public final class TermsAllocatingTest {
     private static final int NONE = -1;
 
     public static void main(String[] args) {
-        Check check = new Check("Terms of ALLOCATING");
-        greatestLengthFirst(check);
-        leastRegisterWithoutMeeting(check);
-        crossedOnesKeepToTheFirstTwo(check);
-        crossedOnesEvictInTheFirstTwo(check);
-        greatestWeightInARegister(check);
-        leastOfTheGreatest(check);
-        leastRegisterOfSeveral(check);
-        lessThanItsOwn(check);
-        thoseThatMeetAreEvicted(check);
-        evictedOnesWaitAgain(check);
-        leastSlotWithoutMeeting(check);
-        slotsAreForGood(check);
-        noRoom(check);
-        costs(check);
-        check.end();
+        new Check("Terms of ALLOCATING").lookAt(
+                TermsAllocatingTest::greatestLengthFirst,
+                TermsAllocatingTest::leastRegisterWithoutMeeting,
+                TermsAllocatingTest::crossedOnesKeepToTheFirstTwo,
+                TermsAllocatingTest::crossedOnesEvictInTheFirstTwo,
+                TermsAllocatingTest::greatestWeightInARegister,
+                TermsAllocatingTest::leastOfTheGreatest,
+                TermsAllocatingTest::leastRegisterOfSeveral,
+                TermsAllocatingTest::lessThanItsOwn,
+                TermsAllocatingTest::thoseThatMeetAreEvicted,
+                TermsAllocatingTest::evictedOnesWaitAgain,
+                TermsAllocatingTest::leastSlotWithoutMeeting,
+                TermsAllocatingTest::slotsAreForGood,
+                TermsAllocatingTest::noRoom,
+                TermsAllocatingTest::costs);
     }
 
     /** Allocates, and looks where every VALUE is; NONE stands for an INSTRUCTION that makes none. */
@@ -100,6 +99,12 @@ public final class TermsAllocatingTest {
                 Forges.constant(5, 3), Forges.say(3, 1), Forges.constant(6), Forges.constant(7), Forges.say(5));
         places(check, forge, 1, 0, 10, 10, 10, NONE, 0, NONE, 10, 10, NONE);
         evictions(check, forge, 0);
+        // The same with 1001/4 before 11/4.
+        AllocForge heavyFirst = Forges.of(
+                Forges.constant(1, 3), Forges.constant(2), Forges.constant(3), Forges.constant(4), Forges.say(0),
+                Forges.constant(5), Forges.say(3, 1), Forges.constant(6), Forges.constant(7), Forges.say(5, 1));
+        places(check, heavyFirst, 1, 0, 10, 10, 10, NONE, 0, NONE, 10, 10, NONE);
+        evictions(check, heavyFirst, 0);
         // 0 (1010/4) and 5 (1100/4) in REGISTER 0 weigh more than 3 (1001/3) together, but each less.
         AllocForge together = Forges.of(
                 Forges.constant(1, 3), Forges.constant(2), Forges.constant(3), Forges.constant(4, 3),

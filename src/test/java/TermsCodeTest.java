@@ -4,20 +4,19 @@ public final class TermsCodeTest {
     private static final int CALL = 7;
 
     public static void main(String[] args) {
-        Check check = new Check("Terms of CODE");
-        usedFor512Calls(check);
-        atMost24Instructions(check);
-        depths(check);
-        valuesMadeBefore(check);
-        constantsAndArguments(check);
-        operations(check);
-        sayMakesNoValue(check);
-        ends(check);
-        meetings(check);
-        crossings(check);
-        prices(check);
-        weights(check);
-        check.end();
+        new Check("Terms of CODE").lookAt(
+                TermsCodeTest::usedFor512Calls,
+                TermsCodeTest::atMost24Instructions,
+                TermsCodeTest::depths,
+                TermsCodeTest::valuesMadeBefore,
+                TermsCodeTest::constantsAndArguments,
+                TermsCodeTest::operations,
+                TermsCodeTest::sayMakesNoValue,
+                TermsCodeTest::ends,
+                TermsCodeTest::meetings,
+                TermsCodeTest::crossings,
+                TermsCodeTest::prices,
+                TermsCodeTest::weights);
     }
 
     private static void usedFor512Calls(Check check) {

@@ -5,16 +5,15 @@ public final class TermsRunTest {
     private static final int CALL = 7;
 
     public static void main(String[] args) {
-        Check check = new Check("Terms of a RUN");
-        wrapping(check);
-        divisions(check);
-        divisionsByZero(check);
-        calls(check);
-        callsSpoil(check);
-        placesAreTakenFromBeforeTheyArePutTo(check);
-        everyRunBeginsAnew(check);
-        results(check);
-        check.end();
+        new Check("Terms of a RUN").lookAt(
+                TermsRunTest::wrapping,
+                TermsRunTest::divisions,
+                TermsRunTest::divisionsByZero,
+                TermsRunTest::calls,
+                TermsRunTest::callsSpoil,
+                TermsRunTest::placesAreTakenFromBeforeTheyArePutTo,
+                TermsRunTest::everyRunBeginsAnew,
+                TermsRunTest::results);
     }
 
     /** What op makes of x and y, as it was written and as ALLOCATED with every number of REGISTERS. */
@@ -154,5 +153,9 @@ public final class TermsRunTest {
         forge.allocate(1);
         check.due(21, "run that ends with one used by none", () -> forge.run(0, 0, 0, 0));
         check.due(21, "go that ends with one used by none", () -> forge.go(0, 0, 0, 0));
+        forge.clear();
+        check.due(0, "run of none any more", () -> forge.run(1, 2, 3, 4));
+        forge.allocate(1);
+        check.due(0, "go of none any more", () -> forge.go(1, 2, 3, 4));
     }
 }
