@@ -1,3 +1,5 @@
+import java.util.List;
+
 /**
  * What the tests share: each looks at the document sentence by sentence, prints every answer that is
  * not as due with the promise and the sentence that ask for it, and ends with 1 if there was one.
@@ -84,9 +86,24 @@ final class Check {
     /** Looks whether a new object refuses the call as due, and answers all that can be asked as before. */
     void refused(Class<?> want, String what, Maker maker, Call call) {
         AllocForge forge = maker.make();
-        String before = Forges.state(forge);
+        List<String> before = Forges.state(forge);
         due(want, what, () -> call.of(forge));
-        due(before, "all that can be asked behind the refused " + what, () -> Forges.state(forge));
+        asBefore(before, "behind the refused " + what, forge);
+    }
+
+    /** Looks whether all that can be asked is answered as before; of several others, the first is told. */
+    void asBefore(List<String> before, String what, AllocForge forge) {
+        List<String> now = Forges.state(forge);
+        int same = 0;
+        while (same < before.size() && same < now.size() && before.get(same).equals(now.get(same))) {
+            same++;
+        }
+        int first = same;
+        due(answerAt(before, first), "what can be asked " + what, () -> answerAt(now, first));
+    }
+
+    private static String answerAt(List<String> answers, int i) {
+        return i < answers.size() ? answers.get(i) : "nothing more";
     }
 
     void end() {

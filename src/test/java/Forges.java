@@ -1,3 +1,6 @@
+import java.util.ArrayList;
+import java.util.List;
+
 /** Objects for the tests, and what can be asked of them. */
 final class Forges {
     static final int MIN = Integer.MIN_VALUE;
@@ -91,8 +94,8 @@ final class Forges {
     }
 
     /** The answers to all that can be asked without changing anything. */
-    static String state(AllocForge forge) {
-        StringBuilder all = new StringBuilder();
+    static List<String> state(AllocForge forge) {
+        List<String> all = new ArrayList<>();
         for (int what = 0; what <= 7; what++) {
             int number = what;
             note(all, "count", what, () -> forge.count(number));
@@ -111,16 +114,16 @@ final class Forges {
             int number = i;
             note(all, "said", i, () -> forge.said(number));
         }
-        return all.toString();
+        return all;
     }
 
-    private static void note(StringBuilder all, String what, int number, Check.Answer answer) {
+    private static void note(List<String> all, String what, int number, Check.Answer answer) {
         Object got;
         try {
             got = answer.get();
         } catch (RuntimeException e) {
             got = e.getClass().getSimpleName();
         }
-        all.append(what).append(' ').append(number).append(": ").append(got).append("; ");
+        all.add(what + " " + number + ": " + got);
     }
 }

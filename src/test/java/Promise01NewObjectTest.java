@@ -1,3 +1,5 @@
+import java.util.List;
+
 /** Promise 1: A new object. */
 public final class Promise01NewObjectTest {
     public static void main(String[] args) {
@@ -43,7 +45,7 @@ public final class Promise01NewObjectTest {
     private static void objectsAreApart(Check check) {
         check.sentence("A new object has no CODE, whatever others have");
         AllocForge first = Forges.busy();
-        String before = Forges.state(first);
+        List<String> before = Forges.state(first);
         AllocForge second = new AllocForge();
         check.due(0, "INSTRUCTIONS of the second", () -> second.count(0));
         check.badState("cost of the second", () -> second.cost());
@@ -51,6 +53,6 @@ public final class Promise01NewObjectTest {
         second.add(0, 1, 0, 0);
         second.allocate(5);
         second.run(0, 0, 0, 0);
-        check.due(before, "all that can be asked of the first", () -> Forges.state(first));
+        check.asBefore(before, "of the first", first);
     }
 }

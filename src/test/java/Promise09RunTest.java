@@ -1,3 +1,5 @@
+import java.util.List;
+
 /** Promise 9: run. */
 public final class Promise09RunTest {
     public static void main(String[] args) {
@@ -69,11 +71,11 @@ public final class Promise09RunTest {
     private static void changesNothingElse(Check check) {
         check.sentence("A RUN as it was written (of the CODE, and what is ALLOCATED, nothing changes)");
         AllocForge forge = Forges.busy();
-        String before = Forges.state(forge);
+        List<String> before = Forges.state(forge);
         forge.run(7, 2, 3, 4);
-        check.due(before, "all that can be asked, the same being SAID", () -> Forges.state(forge));
+        check.asBefore(before, "the same being SAID", forge);
         check.fault("a FAULT", () -> forge.run(7, 0, 3, 4));
         forge.run(7, 2, 9, 9);
-        check.due(before, "all that can be asked behind a FAULT", () -> Forges.state(forge));
+        check.asBefore(before, "behind a FAULT", forge);
     }
 }

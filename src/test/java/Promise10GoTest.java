@@ -1,3 +1,5 @@
+import java.util.List;
+
 /** Promise 10: go. */
 public final class Promise10GoTest {
     public static void main(String[] args) {
@@ -78,12 +80,12 @@ public final class Promise10GoTest {
     private static void changesNothingElse(Check check) {
         check.sentence("A RUN as ALLOCATED (of the CODE, and what is ALLOCATED, nothing changes)");
         AllocForge forge = Forges.busy();
-        String before = Forges.state(forge);
+        List<String> before = Forges.state(forge);
         forge.go(7, 2, 3, 4);
-        check.due(before, "all that can be asked, the same being SAID", () -> Forges.state(forge));
+        check.asBefore(before, "the same being SAID", forge);
         check.fault("a FAULT", () -> forge.go(7, 0, 3, 4));
         forge.go(7, 2, 9, 9);
-        check.due(before, "all that can be asked behind a FAULT", () -> Forges.state(forge));
+        check.asBefore(before, "behind a FAULT", forge);
     }
 
     private static void nothingAllocated(Check check) {

@@ -1,3 +1,5 @@
+import java.util.List;
+
 /** Promise 11: same. */
 public final class Promise11SameTest {
     public static void main(String[] args) {
@@ -66,12 +68,12 @@ public final class Promise11SameTest {
     private static void changesNothingElse(Check check) {
         check.sentence("Both RUNS with these numbers (of the CODE, and what is ALLOCATED, nothing changes)");
         AllocForge forge = Forges.busy();
-        String before = Forges.state(forge);
+        List<String> before = Forges.state(forge);
         forge.same(7, 2, 3, 4);
-        check.due(before, "all that can be asked, the same being SAID", () -> Forges.state(forge));
+        check.asBefore(before, "the same being SAID", forge);
         forge.same(7, 0, 3, 4);
         forge.same(7, 2, 9, 9);
-        check.due(before, "all that can be asked behind a FAULT", () -> Forges.state(forge));
+        check.asBefore(before, "behind a FAULT", forge);
     }
 
     private static void nothingAllocated(Check check) {
